@@ -1,0 +1,54 @@
+/** Counts the answers that are not the ones due, and prints each of them. */
+final class Check {
+    private static final int PRINTED_AT_MOST = 50;
+
+    private static int asked = 0;
+    private static int wrong = 0;
+
+    private Check() {
+    }
+
+    static void due(String call, long got, long want) {
+        asked++;
+        if (got != want) {
+            fault(call + " answered " + got + ", due is " + want);
+        }
+    }
+
+    static void due(String call, boolean got, boolean want) {
+        asked++;
+        if (got != want) {
+            fault(call + " answered " + got + ", due is " + want);
+        }
+    }
+
+    static void holds(String claim, boolean holds) {
+        asked++;
+        if (!holds) {
+            fault(claim + " does not hold");
+        }
+    }
+
+    /** Everything that can be read from the unit is as it was in the snapshot. */
+    static void unchanged(String call, long[] before, SrtDivider unit) {
+        long[] after = Snapshot.of(unit);
+        for (int i = 0; i < before.length; i++) {
+            due("after " + call + ": " + Snapshot.nameOf(i), after[i], before[i]);
+        }
+    }
+
+    private static void fault(String text) {
+        wrong++;
+        if (wrong <= PRINTED_AT_MOST) {
+            System.out.println(text);
+        }
+    }
+
+    static void end() {
+        if (wrong != 0) {
+            System.out.println(wrong + " of " + asked + " answers are not as due");
+            System.exit(1);
+        }
+        System.out.println(asked + " answers are as due");
+    }
+}
