@@ -1,11 +1,23 @@
-/** Counts the answers that are not the ones due, and prints each of them. */
+/** Counts the answers that are not the ones due, and prints each under the sentence that it breaks. */
 final class Check {
     private static final int PRINTED_AT_MOST = 50;
 
+    private static String current = "";
+    private static int sentences = 0;
     private static int asked = 0;
     private static int wrong = 0;
 
     private Check() {
+    }
+
+    /** The test of one sentence of the document; one that asks nothing would hold anything, so it is a fault. */
+    static void sentence(String words, Runnable test) {
+        int before = asked;
+        current = "\"" + words + "\": ";
+        sentences++;
+        test.run();
+        holds("something was asked", asked > before);
+        current = "";
     }
 
     static void due(String call, long got, long want) {
@@ -43,7 +55,7 @@ final class Check {
     private static void fault(String text) {
         wrong++;
         if (wrong <= PRINTED_AT_MOST) {
-            System.out.println(text);
+            System.out.println(current + text);
         }
     }
 
@@ -52,6 +64,6 @@ final class Check {
             System.out.println(wrong + " of " + asked + " answers are not as due");
             System.exit(1);
         }
-        System.out.println(asked + " answers are as due");
+        System.out.println((sentences > 0 ? sentences + " sentences hold, " : "") + asked + " answers are as due");
     }
 }

@@ -9,16 +9,6 @@ import java.util.List;
 final class Model {
     private static final int NONE = Integer.MIN_VALUE;
     private static final long NONE_LONG = Long.MIN_VALUE;
-    private static final int[][] TABLE = {
-        {12, 4, -4, -13},
-        {14, 5, -5, -15},
-        {15, 5, -5, -16},
-        {16, 6, -6, -17},
-        {18, 6, -6, -19},
-        {20, 7, -7, -20},
-        {21, 7, -7, -22},
-        {23, 8, -8, -24},
-    };
 
     private record Row(int digit, int estimate, int quotient, long partial) {
     }
@@ -143,7 +133,7 @@ final class Model {
 
     int threshold(int row, int digit) {
         boolean exists = row >= 0 && row <= 7 && digit >= -1 && digit <= 2;
-        return exists ? TABLE[row][2 - digit] : NONE;
+        return exists ? SelectionTable.threshold(row, digit) : NONE;
     }
 
     private void finish() {
@@ -178,7 +168,7 @@ final class Model {
             long a = words[0] * 4;
             long b = words[1] * 4;
             int estimate = estimateOf(a, b);
-            int digit = digitFor(rowOf(divisor), estimate);
+            int digit = SelectionTable.digitFor(rowOf(divisor), estimate);
             words = carrySave(a, b, -digit * scaledDivisor);
             quotient = 4 * quotient + digit;
             rows.add(new Row(digit, estimate, quotient, words[0] + words[1]));
@@ -189,14 +179,6 @@ final class Model {
     private static int estimateOf(long a, long b) {
         long sum = Math.floorDiv(a, 1L << 30) + Math.floorDiv(b, 1L << 30);
         return (int) (Math.floorMod(sum + 64, 128L) - 64);
-    }
-
-    private static int digitFor(int row, int estimate) {
-        int digit = -2;
-        for (int threshold : TABLE[row]) {
-            digit += estimate >= threshold ? 1 : 0;
-        }
-        return digit;
     }
 
     private static long[] carrySave(long a, long b, long c) {

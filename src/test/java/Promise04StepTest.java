@@ -1,70 +1,152 @@
+import java.util.ArrayList;
+import java.util.List;
+
 /** Promise 4: step performs cycles exactly as told under Terms, at most those that remain. */
 public final class Promise04StepTest {
-    private static final int[] COUNTS_REFUSED = {0, -1, -10, Integer.MIN_VALUE};
-    private static final int[] EDGES = {
-        0, 1, 2, 3, 4, 5, 7, 8, 255, 256, 257, 4095, 4096, 21845, 32767, 32768, 32769, 43690, 65533, 65534, 65535
-    };
+    private static final int[] COUNTS_BELOW_ONE = {0, -1, -2, -9, -10, Integer.MIN_VALUE + 1, Integer.MIN_VALUE};
+    private static final int[] COUNTS = {1, 2, 9, 10, 11, 12, 65536, Integer.MAX_VALUE - 1, Integer.MAX_VALUE};
 
     public static void main(String[] args) {
-        refusesInEveryOtherPhase();
-        refusesCountsBelowOne();
-        performsAtMostWhatRemains();
-        recordsEveryCycle();
-        correctsNegativeRemainder();
-        keepsEarlierCycles();
-        endsOnce();
-        for (int edge : EDGES) {
-            dividesExactly(edge);
-        }
+        Check.sentence("phase is not ITERATING: answer 0", Promise04StepTest::refusesOutsideIterating);
+        Check.sentence("count < 1 (zero and every negative value): answer 0", Promise04StepTest::refusesBelowOne);
+        Check.sentence("considers these conditions in order", Promise04StepTest::refusesBothAtOnce);
+        Check.sentence("In both cases nothing changes", Promise04StepTest::changesNothingWhenRefused);
+        Check.sentence("n = min(count, 10 - cyclesDone). The answer is n", Promise04StepTest::answersCyclesPerformed);
+        Check.sentence("a very large count such as Integer.MAX_VALUE performs only the cycles that remain",
+            Promise04StepTest::performsOnlyWhatRemains);
+        Check.sentence("The next n cycles are performed one after another", Promise04StepTest::splitsAnyWay);
+        Check.sentence("cycles 1..9 are iteration cycles", Promise04StepTest::recordsEveryCycle);
+        Check.sentence("cycle 10 is the correction cycle, which ends in PHASE_DONE, pushes one history record and"
+            + " raises the division count by one", Promise04StepTest::endsWithCorrection);
+        Check.sentence("X, V, s, D, row and the capacity do not change", Promise04StepTest::keepsOperands);
+        Check.sentence("values recorded for earlier cycles do not change", Promise04StepTest::keepsEarlierCycles);
+        holdsInSweep(new Sweep());
         Check.end();
     }
 
-    private static void refusesInEveryOtherPhase() {
-        for (SrtDivider unit : Units.ofEveryPhase()) {
-            int phase = unit.status(SrtDivider.STATUS_PHASE);
-            if (phase != SrtDivider.PHASE_ITERATING) {
-                long[] before = Snapshot.of(unit);
-                for (int count : new int[] {Integer.MIN_VALUE, -1, 0, 1, 10, Integer.MAX_VALUE}) {
-                    Check.due("step(" + count + ") in phase " + phase, unit.step(count), 0);
-                    Check.unchanged("step(" + count + ") in phase " + phase, before, unit);
+    private static void holdsInSweep(Sweep sweep) {
+        Check.sentence("2 if e >= m(2); else 1 if e >= m(1); else 0 if e >= m(0); else -1 if e >= m(-1); else -2",
+            () -> sweep.due("digit chosen by the table", everyThreshold()));
+        Check.sentence("if e7 >= 64 then e7 = e7 - 128",
+            () -> sweep.due("estimate within -64..63", "a negative estimate"));
+        Check.sentence("new QP = 4*QP + q if q >= 0, else 4*QM + 4 + q",
+            () -> sweep.due("QP with the digit appended", "digit -2", "digit -1", "digit 0", "digit 1", "digit 2"));
+        Check.sentence("new QM = 4*QP + q - 1 if q > 0, else 4*QM + 3 + q",
+            () -> sweep.due("QM with the digit appended", "digit -2", "digit -1", "digit 0", "digit 1", "digit 2"));
+        Check.sentence("P_j = (N - QP_j * D * 4^(9-j)) * 4^j exactly",
+            () -> sweep.due("meaning of the partial remainder"));
+        Check.sentence("3*|P_j| <= D*2^19", () -> sweep.due("partial remainder within two thirds"));
+        Check.sentence("QM_j = QP_j - 1", () -> sweep.due("QM is QP less one"));
+        Check.sentence("for j >= 1 digit_j lies in -2..2", () -> sweep.due("digit within -2..2"));
+        Check.sentence("If P < 0: Qf = QM_9; else Qf = QP_9", () -> sweep.due(
+            "quotient register picked by the sign", "a negative P_9", "a P_9 of 0", "a positive P_9"));
+        Check.sentence("If P < 0: R = (P >> 18) + D; else R = P >> 18. The final remainder is R >> s",
+            () -> sweep.due("remainder corrected by the sign", "a negative P_9", "a P_9 of 0", "a positive P_9"));
+        Check.sentence("X = q*V + r exactly",
+            () -> sweep.due("X = q*V + r", "a quotient of 0", "a quotient of 65535"));
+        Check.sentence("0 <= r < V", () -> sweep.due("0 <= r < V", "a remainder of 0", "a remainder of V - 1"));
+    }
+
+    /** Each entry of the table and the estimate one below it. */
+    private static String[] everyThreshold() {
+        List<String> cases = new ArrayList<>();
+        for (int row = 0; row <= 7; row++) {
+            for (int digit = -1; digit <= 2; digit++) {
+                int threshold = SelectionTable.threshold(row, digit);
+                cases.add("row " + row + ", estimate " + threshold);
+                cases.add("row " + row + ", estimate " + (threshold - 1));
+            }
+        }
+        return cases.toArray(new String[0]);
+    }
+
+    private static void refusesOutsideIterating() {
+        for (State state : State.outside(SrtDivider.PHASE_ITERATING)) {
+            for (int count : COUNTS) {
+                Check.due("step(" + count + ") in " + state.name(), state.make().step(count), 0);
+            }
+        }
+    }
+
+    private static void refusesBelowOne() {
+        for (State state : State.in(SrtDivider.PHASE_ITERATING)) {
+            for (int count : COUNTS_BELOW_ONE) {
+                Check.due("step(" + count + ") in " + state.name(), state.make().step(count), 0);
+            }
+        }
+    }
+
+    private static void refusesBothAtOnce() {
+        for (State state : State.outside(SrtDivider.PHASE_ITERATING)) {
+            for (int count : COUNTS_BELOW_ONE) {
+                Check.due("step(" + count + ") in " + state.name(), state.make().step(count), 0);
+            }
+        }
+    }
+
+    private static void changesNothingWhenRefused() {
+        for (State state : State.all()) {
+            for (int count : COUNTS_BELOW_ONE) {
+                Aftermath.changesNothing("step(" + count + ")", state, unit -> unit.step(count));
+            }
+        }
+        for (State state : State.outside(SrtDivider.PHASE_ITERATING)) {
+            for (int count : COUNTS) {
+                Aftermath.changesNothing("step(" + count + ")", state, unit -> unit.step(count));
+            }
+        }
+    }
+
+    private static void answersCyclesPerformed() {
+        for (State state : State.in(SrtDivider.PHASE_ITERATING)) {
+            int left = 10 - state.cycle();
+            for (int count = 1; count <= 12; count++) {
+                SrtDivider unit = state.make();
+                String call = "step(" + count + ") in " + state.name();
+                int cycles = Math.min(count, left);
+                Check.due(call, unit.step(count), cycles);
+                Check.due(call + ": cycles done", unit.status(SrtDivider.STATUS_CYCLE), state.cycle() + cycles);
+                Check.due(call + ": phase", unit.status(SrtDivider.STATUS_PHASE),
+                    count < left ? SrtDivider.PHASE_ITERATING : SrtDivider.PHASE_DONE);
+            }
+        }
+    }
+
+    private static void performsOnlyWhatRemains() {
+        for (State state : State.in(SrtDivider.PHASE_ITERATING)) {
+            int left = 10 - state.cycle();
+            SrtDivider exact = state.make();
+            exact.step(left);
+            for (int count : new int[] {left + 1, 11, 1000, 65536, Integer.MAX_VALUE - 1, Integer.MAX_VALUE}) {
+                SrtDivider unit = state.make();
+                String call = "step(" + count + ") in " + state.name();
+                Check.due(call, unit.step(count), left);
+                Check.unchanged(call, Snapshot.of(exact), unit);
+                Check.due("another " + call, unit.step(count), 0);
+                Check.unchanged("another " + call, Snapshot.of(exact), unit);
+            }
+        }
+    }
+
+    /** A set bit of the mask ends a step after that cycle, so every way to split the ten cycles comes up. */
+    private static void splitsAnyWay() {
+        long[] whole = Snapshot.of(Units.done(1, 54321, 123));
+        for (int mask = 0; mask < 512; mask++) {
+            SrtDivider unit = Units.iterating(1, 54321, 123, 0);
+            int count = 0;
+            for (int cycle = 1; cycle <= 10; cycle++) {
+                count++;
+                if (cycle == 10 || (mask >> cycle - 1 & 1) != 0) {
+                    Check.due("step(" + count + ") to cycle " + cycle, unit.step(count), count);
+                    count = 0;
                 }
             }
+            Check.unchanged("ten cycles split by " + mask, whole, unit);
         }
-    }
-
-    private static void refusesCountsBelowOne() {
-        for (int cycles = 0; cycles <= 9; cycles++) {
-            SrtDivider unit = Units.iterating(50000, 3, cycles);
-            long[] before = Snapshot.of(unit);
-            for (int count : COUNTS_REFUSED) {
-                Check.due("step(" + count + ")", unit.step(count), 0);
-                Check.unchanged("step(" + count + ")", before, unit);
-            }
-        }
-    }
-
-    private static void performsAtMostWhatRemains() {
-        long[] wanted = Snapshot.of(Units.done(54321, 123));
-        for (int first = 1; first <= 9; first++) {
-            for (int count : new int[] {10 - first, 11 - first, 10, 11, 1000, Integer.MAX_VALUE}) {
-                SrtDivider unit = Units.loaded(54321, 123);
-                unit.start();
-                Check.due("step(" + first + ")", unit.step(first), first);
-                Check.due("cycles done", unit.status(SrtDivider.STATUS_CYCLE), first);
-                Check.due("phase", unit.status(SrtDivider.STATUS_PHASE), SrtDivider.PHASE_ITERATING);
-                Check.due("step(" + count + ") after " + first, unit.step(count), 10 - first);
-                Check.unchanged("both steps", wanted, unit);
-            }
-        }
-        SrtDivider unit = Units.loaded(54321, 123);
-        unit.start();
-        Check.due("step of the greatest count", unit.step(Integer.MAX_VALUE), 10);
-        Check.unchanged("step of the greatest count", wanted, unit);
     }
 
     private static void recordsEveryCycle() {
-        SrtDivider unit = Units.loaded(54321, 123);
-        unit.start();
+        SrtDivider unit = Units.iterating(0, 54321, 123, 0);
         int[] digits = {0, 0, 0, 0, 2, -1, 0, -2, 2};
         int[] estimates = {0, 0, 1, 6, 26, -17, -7, -25, 25};
         int[] quotients = {0, 0, 0, 0, 2, 7, 28, 110, 442};
@@ -82,88 +164,63 @@ public final class Promise04StepTest {
             Check.due(state + ": P", unit.partialRemainder(j), partials[j - 1]);
             Units.dueRegisters(state, unit, SrtDivider.PHASE_ITERATING, j, 54321, 123, 9, 62976, 7,
                 Units.NONE, Units.NONE);
-            Units.dueCounts(state, unit, 0, 0, 4);
+            Units.dueCounts(state, unit, 0, 0, Units.CAPACITY);
+        }
+        Check.due("54321 / 123, cycle 10", unit.step(1), 1);
+        Units.dueRegisters("54321 / 123, cycle 10", unit, SrtDivider.PHASE_DONE, 10, 54321, 123, 9, 62976, 7, 441, 78);
+    }
+
+    /** With a history that is empty, one short of full, full, and full with one discarded. */
+    private static void endsWithCorrection() {
+        for (int past = 0; past <= Units.CAPACITY + 1; past++) {
+            SrtDivider unit = Units.iterating(past, 50000, 3, 9);
+            String state = "50000 / 3 after " + past + " divisions";
+            Check.due(state + ": phase", unit.status(SrtDivider.STATUS_PHASE), SrtDivider.PHASE_ITERATING);
+            Units.dueCounts(state, unit, Math.min(past, Units.CAPACITY), past, Units.CAPACITY);
+            Units.duePast(state, unit, Units.CAPACITY, past, 0);
+            Check.due(state + ": step(1)", unit.step(1), 1);
+            Units.dueRegisters(state, unit, SrtDivider.PHASE_DONE, 10, 50000, 3, 14, 49152, 4, 16666, 2);
+            Units.dueCounts(state, unit, Math.min(past + 1, Units.CAPACITY), past + 1, Units.CAPACITY);
+            Units.dueRecord(state, unit, 0, 50000, 3);
+            Units.duePast(state, unit, Units.CAPACITY, past, 1);
         }
     }
 
-    private static void correctsNegativeRemainder() {
-        dueResult(54321, 123, 9, 62976, 7, 441, 78);
-        dueResult(50000, 3, 14, 49152, 4, 16666, 2);
-        dueResult(65534, 65535, 0, 65535, 7, 0, 65534);
-        dueResult(100, 7, 13, 57344, 6, 14, 2);
-        dueResult(65535, 1, 15, 32768, 0, 65535, 0);
-        dueResult(0, 65535, 0, 65535, 7, 0, 0);
-    }
-
-    private static void dueResult(int dividend, int divisor, int shift, int normDivisor, int row,
-            int quotient, int remainder) {
-        String state = "step from cycle 9 of " + dividend + " / " + divisor;
-        SrtDivider unit = Units.iterating(dividend, divisor, 9);
-        Check.due(state, unit.step(1), 1);
-        Units.dueRegisters(state, unit, SrtDivider.PHASE_DONE, 10, dividend, divisor,
-            shift, normDivisor, row, quotient, remainder);
-        Units.dueCounts(state, unit, 1, 1, 4);
-        Units.dueRecord(state, unit, 0, dividend, divisor, quotient, remainder);
+    private static void keepsOperands() {
+        for (int[] operands : Refusals.edgeOperands()) {
+            SrtDivider unit = Units.iterating(0, operands[0], operands[1], 0);
+            int shift = unit.status(SrtDivider.STATUS_SHIFT);
+            int normDivisor = unit.status(SrtDivider.STATUS_NORM_DIVISOR);
+            int row = unit.status(SrtDivider.STATUS_ROW);
+            for (int cycle = 1; cycle <= 10; cycle++) {
+                unit.step(1);
+                String state = operands[0] + " / " + operands[1] + ", cycle " + cycle;
+                boolean done = cycle == 10;
+                Units.dueRegisters(state, unit, done ? SrtDivider.PHASE_DONE : SrtDivider.PHASE_ITERATING, cycle,
+                    operands[0], operands[1], shift, normDivisor, row,
+                    done ? operands[0] / operands[1] : Units.NONE, done ? operands[0] % operands[1] : Units.NONE);
+                Check.due(state + ": capacity", unit.status(SrtDivider.STATUS_CAPACITY), Units.CAPACITY);
+            }
+        }
     }
 
     private static void keepsEarlierCycles() {
-        SrtDivider whole = Units.done(50000, 3);
-        SrtDivider unit = Units.iterating(50000, 3, 0);
-        for (int cycle = 1; cycle <= 10; cycle++) {
-            unit.step(1);
-            for (int j = 0; j <= Math.min(cycle, 9); j++) {
-                for (int kind = 0; kind <= 3; kind++) {
-                    Check.due("trace(" + kind + ", " + j + ") after cycle " + cycle,
-                        unit.trace(kind, j), whole.trace(kind, j));
+        for (int[] operands : Refusals.edgeOperands()) {
+            SrtDivider whole = Units.done(0, operands[0], operands[1]);
+            SrtDivider unit = Units.iterating(0, operands[0], operands[1], 0);
+            for (int cycle = 1; cycle <= 10; cycle++) {
+                unit.step(1);
+                for (int j = 0; j <= Math.min(cycle, 9); j++) {
+                    dueSameCycle(j + " after cycle " + cycle, unit, whole, j);
                 }
-                Check.due("P_" + j + " after cycle " + cycle, unit.partialRemainder(j), whole.partialRemainder(j));
             }
         }
     }
 
-    private static void endsOnce() {
-        SrtDivider unit = Units.done(100, 7);
-        long[] before = Snapshot.of(unit);
-        Check.due("step(1) in DONE", unit.step(1), 0);
-        Check.unchanged("step(1) in DONE", before, unit);
-    }
-
-    private static void dividesExactly(int edge) {
-        SrtDivider unit = new SrtDivider(1);
-        for (int other = 0; other <= SrtDivider.MAX_OPERAND; other++) {
-            if (other > 0) {
-                dueInvariants(unit, edge, other);
-            }
-            if (edge > 0) {
-                dueInvariants(unit, other, edge);
-            }
+    private static void dueSameCycle(String name, SrtDivider unit, SrtDivider whole, int j) {
+        for (int kind = 0; kind <= 3; kind++) {
+            Check.due("trace of kind " + kind + " of cycle " + name, unit.trace(kind, j), whole.trace(kind, j));
         }
-    }
-
-    private static void dueInvariants(SrtDivider unit, int dividend, int divisor) {
-        unit.load(dividend, divisor);
-        unit.start();
-        unit.step(10);
-        boolean exact = unit.status(SrtDivider.STATUS_QUOTIENT) == dividend / divisor
-            && unit.status(SrtDivider.STATUS_REMAINDER) == dividend % divisor;
-        boolean bounded = true;
-        for (int j = 0; j <= 9; j++) {
-            bounded = bounded && cycleIsSound(unit, j);
-        }
-        if (!exact || !bounded) {
-            Check.holds("exact " + dividend + " / " + divisor + " with bounded cycles", false);
-        }
-    }
-
-    private static boolean cycleIsSound(SrtDivider unit, int j) {
-        long normDivisor = unit.status(SrtDivider.STATUS_NORM_DIVISOR);
-        long partial = unit.partialRemainder(j);
-        int quotient = unit.trace(SrtDivider.TRACE_QP, j);
-        int digit = j == 0 ? 0 : unit.trace(SrtDivider.TRACE_DIGIT, j);
-        long meaning = (unit.partialRemainder(0) - (quotient * normDivisor << 2 * (9 - j))) << 2 * j;
-        return 3 * Math.abs(partial) <= normDivisor << 19
-            && partial == meaning
-            && unit.trace(SrtDivider.TRACE_QM, j) == quotient - 1
-            && digit >= -2 && digit <= 2;
+        Check.due("partial remainder of cycle " + name, unit.partialRemainder(j), whole.partialRemainder(j));
     }
 }

@@ -1,47 +1,84 @@
 /** Promise 6: cancel goes back from a running division to the loaded operands. */
 public final class Promise06CancelTest {
     public static void main(String[] args) {
-        refusesInEveryOtherPhase();
-        for (int cycles = 0; cycles <= 9; cycles++) {
-            abandons(cycles);
-            startsAfresh(cycles);
-        }
+        Check.sentence("cancel() in any phase other than PHASE_ITERATING answers false",
+            Promise06CancelTest::refusesOutsideIterating);
+        Check.sentence("cancel() in any phase other than PHASE_ITERATING changes nothing",
+            Promise06CancelTest::changesNothingOutsideIterating);
+        Check.sentence("the phase becomes PHASE_LOADED with the same X and V, and the answer is true",
+            Promise06CancelTest::goesBackToLoaded);
+        Check.sentence("No history record is made and the division count does not change",
+            Promise06CancelTest::makesNoRecord);
+        Check.sentence("shift, normalised divisor, row, quotient and remainder read NONE, the cycle count reads 0, and"
+            + " trace and partial remainder queries answer NONE or NONE_LONG", Promise06CancelTest::hidesDivision);
+        Check.sentence("A following start() begins afresh from cycle 0", Promise06CancelTest::startsAfresh);
+        Check.sentence("As in any LOADED state", Promise06CancelTest::isLikeLoad);
         Check.end();
     }
 
-    private static void refusesInEveryOtherPhase() {
-        for (SrtDivider unit : Units.ofEveryPhase()) {
-            int phase = unit.status(SrtDivider.STATUS_PHASE);
-            if (phase != SrtDivider.PHASE_ITERATING) {
-                long[] before = Snapshot.of(unit);
-                Check.due("cancel() in phase " + phase, unit.cancel(), false);
-                Check.unchanged("cancel() in phase " + phase, before, unit);
+    private static void refusesOutsideIterating() {
+        for (State state : State.outside(SrtDivider.PHASE_ITERATING)) {
+            Check.due("cancel() in " + state.name(), state.make().cancel(), false);
+        }
+    }
+
+    private static void changesNothingOutsideIterating() {
+        for (State state : State.outside(SrtDivider.PHASE_ITERATING)) {
+            Aftermath.changesNothing("cancel()", state, SrtDivider::cancel);
+        }
+    }
+
+    private static void goesBackToLoaded() {
+        for (State state : State.in(SrtDivider.PHASE_ITERATING)) {
+            SrtDivider unit = state.make();
+            String call = "cancel() in " + state.name();
+            Check.due(call, unit.cancel(), true);
+            Check.due(call + ": phase", unit.status(SrtDivider.STATUS_PHASE), SrtDivider.PHASE_LOADED);
+            Check.due(call + ": dividend", unit.status(SrtDivider.STATUS_DIVIDEND), State.DIVIDEND);
+            Check.due(call + ": divisor", unit.status(SrtDivider.STATUS_DIVISOR), State.DIVISOR);
+            Check.due("a second " + call, unit.cancel(), false);
+            Check.due("step(1) after " + call, unit.step(1), 0);
+        }
+    }
+
+    private static void makesNoRecord() {
+        for (int past = 0; past <= Units.CAPACITY + 1; past++) {
+            for (int cycles = 0; cycles <= 9; cycles++) {
+                SrtDivider unit = Units.iterating(past, 54321, 123, cycles);
+                unit.cancel();
+                String state = "cancel() in cycle " + cycles + " after " + past + " divisions";
+                Units.dueCounts(state, unit, Math.min(past, Units.CAPACITY), past, Units.CAPACITY);
+                Units.duePast(state, unit, Units.CAPACITY, past, 0);
             }
         }
     }
 
-    private static void abandons(int cycles) {
-        SrtDivider unit = Units.done(100, 7);
-        unit.load(54321, 123);
-        unit.start();
-        unit.step(cycles);
-        String state = "cancel() after cycle " + cycles;
-        Check.due(state, unit.cancel(), true);
-        Units.dueRegisters(state, unit, SrtDivider.PHASE_LOADED, 0, 54321, 123,
-            Units.NONE, Units.NONE, Units.NONE, Units.NONE, Units.NONE);
-        Units.dueNoTrace(state, unit);
-        Units.dueCounts(state, unit, 1, 1, 4);
-        Units.dueRecord(state, unit, 0, 100, 7, 14, 2);
-        Check.due("a second cancel()", unit.cancel(), false);
-        Check.due("step(1) once cancelled", unit.step(1), 0);
+    private static void hidesDivision() {
+        for (State state : State.in(SrtDivider.PHASE_ITERATING)) {
+            SrtDivider unit = state.make();
+            unit.cancel();
+            Units.dueLoaded("cancel() in " + state.name(), unit, State.DIVIDEND, State.DIVISOR);
+        }
     }
 
-    private static void startsAfresh(int cycles) {
-        SrtDivider unit = Units.iterating(54321, 123, cycles);
-        unit.cancel();
-        Check.due("start() once cancelled", unit.start(), true);
-        Check.unchanged("start() once cancelled", Snapshot.of(Units.iterating(54321, 123, 0)), unit);
-        Check.due("step(10) once cancelled", unit.step(10), 10);
-        Check.unchanged("step(10) once cancelled", Snapshot.of(Units.done(54321, 123)), unit);
+    private static void startsAfresh() {
+        for (int cycles = 0; cycles <= 9; cycles++) {
+            SrtDivider unit = Units.iterating(1, 54321, 123, cycles);
+            unit.cancel();
+            Check.due("start() once cancelled", unit.start(), true);
+            Check.unchanged("start() once cancelled", Snapshot.of(Units.iterating(1, 54321, 123, 0)), unit);
+            Check.due("step(10) once cancelled", unit.step(10), 10);
+            Check.unchanged("step(10) once cancelled", Snapshot.of(Units.done(1, 54321, 123)), unit);
+        }
+    }
+
+    private static void isLikeLoad() {
+        for (int cycles = 0; cycles <= 9; cycles++) {
+            SrtDivider unit = Units.iterating(1, 54321, 123, cycles);
+            unit.cancel();
+            Check.unchanged("cancel()", Snapshot.of(Units.loaded(1, 54321, 123)), unit);
+            Check.due("load(100, 7) once cancelled", unit.load(100, 7), true);
+            Check.unchanged("load(100, 7) once cancelled", Snapshot.of(Units.loaded(1, 100, 7)), unit);
+        }
     }
 }

@@ -1,88 +1,145 @@
 /** Promise 11: history answers the records of the last divisions, newest first. */
 public final class Promise11HistoryTest {
+    private static final int NONE = Units.NONE;
+    private static final int[] NO_KIND = {Integer.MIN_VALUE, -4, -2, -1, 4, 5, 8, 256, Integer.MAX_VALUE};
+    private static final int[] FAR_PLACES = {Integer.MIN_VALUE, -65536, -16, -1, 16, 17, 65536, Integer.MAX_VALUE};
+
     public static void main(String[] args) {
-        isEmptyAtFirst();
-        for (int capacity = 1; capacity <= 16; capacity++) {
-            keepsTheNewest(capacity);
-        }
-        holdsCompletedDivisionsAlone();
-        for (SrtDivider unit : Units.ofEveryPhase()) {
-            knowsNoOtherKind(unit);
-            knowsNoOtherRecord(unit);
-            changesNothing(unit);
-        }
+        Check.sentence("history(kind, k) changes nothing", Promise11HistoryTest::changesNothing);
+        Check.sentence("kind not one of HIST_DIVIDEND, HIST_DIVISOR, HIST_QUOTIENT, HIST_REMAINDER: NONE",
+            Promise11HistoryTest::knowsNoOtherKind);
+        Check.sentence("k outside 0..count-1: NONE", Promise11HistoryTest::knowsNoOtherPlace);
+        Check.sentence("negative k included", Promise11HistoryTest::knowsNoNegativePlace);
+        Check.sentence("any k on an empty history included", Promise11HistoryTest::isEmptyAtFirstAndOnceCleared);
+        Check.sentence("Conditions in order", Promise11HistoryTest::refusesBothAtOnce);
+        Check.sentence("Otherwise the stored field of record k, where 0 is the newest",
+            Promise11HistoryTest::answersStored);
+        Check.sentence("of that division: one that is running or cancelled leaves no record",
+            Promise11HistoryTest::holdsCompletedDivisionsAlone);
+        Check.sentence("dividend = quotient*divisor + remainder with 0 <= remainder < divisor",
+            Promise11HistoryTest::holdsEdgeDivisions);
         Check.end();
     }
 
-    private static void isEmptyAtFirst() {
-        SrtDivider unit = Units.empty();
-        for (int k : new int[] {Integer.MIN_VALUE, -1, 0, 1, 3, 4, 15, 16, Integer.MAX_VALUE}) {
-            dueNoRecord(unit, k);
+    private static void changesNothing() {
+        for (State state : State.all()) {
+            Aftermath.changesNothing("every history query", state, unit -> {
+                for (int kind = -1; kind <= 4; kind++) {
+                    for (int k = -1; k <= 17; k++) {
+                        unit.history(kind, k);
+                    }
+                }
+            });
         }
     }
 
-    private static void keepsTheNewest(int capacity) {
-        SrtDivider unit = new SrtDivider(capacity);
-        for (int done = 1; done <= 40; done++) {
-            unit.divide(dividendOf(done), divisorOf(done));
-            int count = Math.min(done, capacity);
-            for (int k = 0; k < count; k++) {
-                int dividend = dividendOf(done - k);
-                int divisor = divisorOf(done - k);
-                Units.dueRecord("capacity " + capacity + ", " + done + " divisions", unit, k,
-                    dividend, divisor, dividend / divisor, dividend % divisor);
+    private static void knowsNoOtherKind() {
+        for (State state : State.all()) {
+            SrtDivider unit = state.make();
+            for (int kind : NO_KIND) {
+                for (int k = 0; k < Units.CAPACITY; k++) {
+                    Check.due("history(" + kind + ", " + k + ") in " + state.name(), unit.history(kind, k), NONE);
+                }
             }
-            dueNoRecord(unit, count);
         }
     }
 
-    private static int dividendOf(int division) {
-        return 65535 - 1601 * division;
+    private static void knowsNoOtherPlace() {
+        for (int capacity = 1; capacity <= 16; capacity++) {
+            for (int past = 0; past <= capacity + 2; past++) {
+                SrtDivider unit = Units.filled(capacity, past);
+                String state = past + " divisions, capacity " + capacity;
+                for (int k = Math.min(past, capacity); k <= 17; k++) {
+                    Units.dueNoRecord(state, unit, k);
+                }
+                for (int k : FAR_PLACES) {
+                    Units.dueNoRecord(state, unit, k);
+                }
+            }
+        }
     }
 
-    private static int divisorOf(int division) {
-        return 1 + 37 * division;
+    private static void knowsNoNegativePlace() {
+        for (State state : State.all()) {
+            SrtDivider unit = state.make();
+            for (int k : new int[] {-1, -2, -3, -16, -65536, Integer.MIN_VALUE + 1, Integer.MIN_VALUE}) {
+                Units.dueNoRecord(state.name(), unit, k);
+            }
+        }
+    }
+
+    private static void isEmptyAtFirstAndOnceCleared() {
+        for (State state : State.all()) {
+            SrtDivider unit = state.make();
+            if (unit.status(SrtDivider.STATUS_HISTORY_COUNT) == 0) {
+                dueNoRecordAtAll(state.name(), unit);
+            }
+            unit.clearHistory();
+            dueNoRecordAtAll(state.name() + ", cleared", unit);
+        }
+    }
+
+    private static void dueNoRecordAtAll(String state, SrtDivider unit) {
+        for (int k = -1; k <= 17; k++) {
+            Units.dueNoRecord(state, unit, k);
+        }
+        for (int k : FAR_PLACES) {
+            Units.dueNoRecord(state, unit, k);
+        }
+    }
+
+    private static void refusesBothAtOnce() {
+        for (State state : State.all()) {
+            SrtDivider unit = state.make();
+            for (int kind : NO_KIND) {
+                for (int k : FAR_PLACES) {
+                    Check.due("history(" + kind + ", " + k + ") in " + state.name(), unit.history(kind, k), NONE);
+                }
+            }
+        }
+    }
+
+    /** In LOADED and ITERATING too, where the unit holds other operands than the newest record. */
+    private static void answersStored() {
+        for (int past = 1; past <= Units.CAPACITY + 2; past++) {
+            SrtDivider unit = Units.filled(past);
+            Units.duePast("DONE after " + past, unit, Units.CAPACITY, past, 0);
+            unit.load(100, 7);
+            Units.duePast("LOADED after " + past, unit, Units.CAPACITY, past, 0);
+            unit.start();
+            for (int cycle = 1; cycle <= 9; cycle++) {
+                unit.step(1);
+                Units.duePast("ITERATING after " + past, unit, Units.CAPACITY, past, 0);
+            }
+            unit.step(1);
+            Units.dueRecord("DONE after " + past, unit, 0, 100, 7);
+            Units.duePast("DONE after " + past, unit, Units.CAPACITY, past, 1);
+        }
     }
 
     private static void holdsCompletedDivisionsAlone() {
-        SrtDivider unit = Units.done(100, 7);
-        unit.load(9, 2);
-        unit.start();
-        unit.step(9);
-        dueNoRecord(unit, 1);
+        SrtDivider unit = Units.iterating(1, 9, 2, 9);
+        Units.dueNoRecord("after cycle 9", unit, 1);
         unit.cancel();
-        dueNoRecord(unit, 1);
+        Units.dueNoRecord("once cancelled", unit, 1);
         unit.start();
         unit.step(10);
-        Units.dueRecord("a second division", unit, 0, 9, 2, 4, 1);
-        Units.dueRecord("a second division", unit, 1, 100, 7, 14, 2);
+        Units.dueRecord("a second division", unit, 0, 9, 2);
+        Units.duePast("a second division", unit, Units.CAPACITY, 1, 1);
     }
 
-    private static void dueNoRecord(SrtDivider unit, int k) {
-        Units.dueRecord("no such record", unit, k, Units.NONE, Units.NONE, Units.NONE, Units.NONE);
-    }
-
-    private static void knowsNoOtherKind(SrtDivider unit) {
-        for (int kind : new int[] {Integer.MIN_VALUE, -4, -1, 4, 5, 256, Integer.MAX_VALUE}) {
-            for (int k : new int[] {Integer.MIN_VALUE, -1, 0, 1, 16, Integer.MAX_VALUE}) {
-                Check.due("history(" + kind + ", " + k + ")", unit.history(kind, k), Units.NONE);
-            }
+    private static void holdsEdgeDivisions() {
+        SrtDivider unit = new SrtDivider(16);
+        for (int[] operands : Refusals.edgeOperands()) {
+            unit.divide(operands[0], operands[1]);
+            Units.dueRecord(operands[0] + " / " + operands[1], unit, 0, operands[0], operands[1]);
         }
-    }
-
-    private static void knowsNoOtherRecord(SrtDivider unit) {
-        for (int k : new int[] {Integer.MIN_VALUE, -16, -1, 2, 3, 4, 15, 16, 17, Integer.MAX_VALUE}) {
-            dueNoRecord(unit, k);
+        for (int k = 0; k <= 15; k++) {
+            int divisor = unit.history(SrtDivider.HIST_DIVISOR, k);
+            int remainder = unit.history(SrtDivider.HIST_REMAINDER, k);
+            Check.due("dividend of record " + k, unit.history(SrtDivider.HIST_DIVIDEND, k),
+                unit.history(SrtDivider.HIST_QUOTIENT, k) * divisor + remainder);
+            Check.holds("0 <= remainder < divisor in record " + k, remainder >= 0 && remainder < divisor);
         }
-    }
-
-    private static void changesNothing(SrtDivider unit) {
-        long[] before = Snapshot.of(unit);
-        for (int kind = -1; kind <= 4; kind++) {
-            for (int k = -1; k <= 17; k++) {
-                unit.history(kind, k);
-            }
-        }
-        Check.unchanged("every history query", before, unit);
     }
 }

@@ -1,59 +1,61 @@
-/** Units brought into each phase by calls of the public face, for the tests that need one. */
+/** Units brought into a state by calls of the public face, and the readings due of them. */
 final class Units {
     static final int NONE = SrtDivider.NONE;
     static final long NONE_LONG = SrtDivider.NONE_LONG;
+    static final int CAPACITY = 3;
 
     private Units() {
     }
 
-    static SrtDivider empty() {
-        return new SrtDivider(4);
+    /** A new unit that has completed so many divisions, the one of pastDividend(past) the newest. */
+    static SrtDivider filled(int past) {
+        return filled(CAPACITY, past);
     }
 
-    static SrtDivider loaded(int dividend, int divisor) {
-        SrtDivider unit = empty();
+    static SrtDivider filled(int capacity, int past) {
+        SrtDivider unit = new SrtDivider(capacity);
+        for (int i = 1; i <= past; i++) {
+            unit.divide(pastDividend(i), pastDivisor(i));
+        }
+        return unit;
+    }
+
+    static int pastDividend(int i) {
+        return 65535 - 1601 * i;
+    }
+
+    static int pastDivisor(int i) {
+        return 1 + 37 * i;
+    }
+
+    static SrtDivider loaded(int past, int dividend, int divisor) {
+        SrtDivider unit = filled(past);
         unit.load(dividend, divisor);
         return unit;
     }
 
-    static SrtDivider iterating(int dividend, int divisor, int cycles) {
-        SrtDivider unit = loaded(dividend, divisor);
+    static SrtDivider iterating(int past, int dividend, int divisor, int cycles) {
+        SrtDivider unit = loaded(past, dividend, divisor);
         unit.start();
         unit.step(cycles);
         return unit;
     }
 
-    static SrtDivider done(int dividend, int divisor) {
-        SrtDivider unit = empty();
-        unit.divide(dividend, divisor);
-        return unit;
+    static SrtDivider done(int past, int dividend, int divisor) {
+        return iterating(past, dividend, divisor, 10);
     }
 
-    /** A division that ended earlier stands in the history of each unit but the empty one. */
-    static SrtDivider[] ofEveryPhase() {
-        SrtDivider loaded = done(11, 4);
-        loaded.load(50000, 3);
-        SrtDivider started = done(11, 4);
-        started.load(50000, 3);
-        started.start();
-        SrtDivider iterating = done(11, 4);
-        iterating.load(50000, 3);
-        iterating.start();
-        iterating.step(5);
-        SrtDivider done = done(11, 4);
-        done.divide(50000, 3);
-        return new SrtDivider[] {empty(), loaded, started, iterating, done};
-    }
-
+    /** The statuses from STATUS_PHASE to STATUS_REMAINDER. */
     static void dueRegisters(String state, SrtDivider unit, int... wanted) {
-        int[] kinds = {
-            SrtDivider.STATUS_PHASE, SrtDivider.STATUS_CYCLE, SrtDivider.STATUS_DIVIDEND, SrtDivider.STATUS_DIVISOR,
-            SrtDivider.STATUS_SHIFT, SrtDivider.STATUS_NORM_DIVISOR, SrtDivider.STATUS_ROW,
-            SrtDivider.STATUS_QUOTIENT, SrtDivider.STATUS_REMAINDER
-        };
-        for (int i = 0; i < kinds.length; i++) {
-            Check.due(state + ": status(" + kinds[i] + ")", unit.status(kinds[i]), wanted[i]);
+        for (int kind = SrtDivider.STATUS_PHASE; kind <= SrtDivider.STATUS_REMAINDER; kind++) {
+            Check.due(state + ": status(" + kind + ")", unit.status(kind), wanted[kind]);
         }
+    }
+
+    /** As dueRegisters, for a unit that holds operands and has not started. */
+    static void dueLoaded(String state, SrtDivider unit, int dividend, int divisor) {
+        dueRegisters(state, unit, SrtDivider.PHASE_LOADED, 0, dividend, divisor, NONE, NONE, NONE, NONE, NONE);
+        dueNoTrace(state, unit);
     }
 
     static void dueCounts(String state, SrtDivider unit, int historyCount, int divisions, int capacity) {
@@ -71,9 +73,31 @@ final class Units {
         }
     }
 
-    static void dueRecord(String state, SrtDivider unit, int k, int... wanted) {
+    static void dueRecord(String state, SrtDivider unit, int k, int dividend, int divisor) {
+        dueFields(state, unit, k, dividend, divisor, dividend / divisor, dividend % divisor);
+    }
+
+    static void dueNoRecord(String state, SrtDivider unit, int k) {
+        dueFields(state, unit, k, NONE, NONE, NONE, NONE);
+    }
+
+    private static void dueFields(String state, SrtDivider unit, int k, int... wanted) {
         for (int kind = 0; kind <= 3; kind++) {
             Check.due(state + ": history(" + kind + ", " + k + ")", unit.history(kind, k), wanted[kind]);
+        }
+    }
+
+    /** The records left by filled(capacity, past), from place first on, and none beyond them. */
+    static void duePast(String state, SrtDivider unit, int capacity, int past, int first) {
+        int count = Math.min(first + past, capacity);
+        for (int k = first; k < count; k++) {
+            int i = past - (k - first);
+            dueRecord(state, unit, k, pastDividend(i), pastDivisor(i));
+        }
+        for (int k : new int[] {Integer.MIN_VALUE, -1, count, count + 1, 15, 16, Integer.MAX_VALUE}) {
+            if (k < 0 || k >= count) {
+                dueNoRecord(state, unit, k);
+            }
         }
     }
 }
