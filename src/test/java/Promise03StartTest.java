@@ -7,10 +7,6 @@ public final class Promise03StartTest {
             Promise03StartTest::changesNothingOutsideLoaded);
         Check.sentence("sets the phase to PHASE_ITERATING with 0 cycles done and answers true",
             Promise03StartTest::startsInLoaded);
-        Check.sentence("s = the least s >= 0 with (V << s) >= 32768 (so 0..15)", Promise03StartTest::findsLeastShift);
-        Check.sentence("D = V << s (32768..65535), the normalised divisor", Promise03StartTest::normalisesDivisor);
-        Check.sentence("N = X << s, computed as a long (0 .. 2^31 - 1)", Promise03StartTest::shiftsDividend);
-        Check.sentence("row = (D >> 12) - 8 (0..7), the selection table row", Promise03StartTest::findsEveryRow);
         Check.sentence("Afterwards QP_0 = 0, QM_0 = -1 and P_0 = N can be read back",
             Promise03StartTest::recordsCycleZero);
         Check.sentence("X, V, the history, the division count and the capacity do not change",
@@ -38,58 +34,6 @@ public final class Promise03StartTest {
             Units.dueRegisters(call, unit, SrtDivider.PHASE_ITERATING, 0, State.DIVIDEND, State.DIVISOR,
                 8, 61696, 7, Units.NONE, Units.NONE);
         }
-    }
-
-    private static void findsLeastShift() {
-        dueShift(1, 15);
-        for (int shift = 0; shift <= 14; shift++) {
-            int least = 32768 >> shift;
-            dueShift(least, shift);
-            dueShift(least + 1, shift);
-            dueShift(2 * least - 1, shift);
-            dueShift(least - 1, Integer.numberOfLeadingZeros(least - 1) - 16);
-        }
-    }
-
-    private static void dueShift(int divisor, int shift) {
-        Check.due("shift of " + divisor, startedWith(1, divisor).status(SrtDivider.STATUS_SHIFT), shift);
-    }
-
-    private static void normalisesDivisor() {
-        SrtDivider unit = new SrtDivider(1);
-        for (int divisor = 1; divisor <= SrtDivider.MAX_OPERAND; divisor++) {
-            unit.load(1, divisor);
-            unit.start();
-            int wanted = divisor;
-            while (wanted < 32768) {
-                wanted += wanted;
-            }
-            Check.due("D of " + divisor, unit.status(SrtDivider.STATUS_NORM_DIVISOR), wanted);
-            unit.cancel();
-        }
-    }
-
-    private static void shiftsDividend() {
-        for (int dividend : new int[] {0, 1, 32767, 32768, 65534, 65535}) {
-            for (int shift = 0; shift <= 15; shift++) {
-                long wanted = dividend * (1L << shift);
-                Check.due("P_0 of " + dividend + " shifted by " + shift,
-                    startedWith(dividend, 32768 >> shift).partialRemainder(0), wanted);
-            }
-        }
-        Check.due("the greatest P_0", startedWith(65535, 1).partialRemainder(0), 2147450880L);
-        Check.due("the least P_0", startedWith(0, 1).partialRemainder(0), 0L);
-    }
-
-    private static void findsEveryRow() {
-        for (int row = 0; row <= 7; row++) {
-            int least = 32768 + row * 4096;
-            int greatest = least + 4095;
-            Check.due("row of " + least, startedWith(1, least).status(SrtDivider.STATUS_ROW), row);
-            Check.due("row of " + greatest, startedWith(1, greatest).status(SrtDivider.STATUS_ROW), row);
-            Check.due("row of " + (8 + row), startedWith(1, 8 + row).status(SrtDivider.STATUS_ROW), row);
-        }
-        Check.due("row of 1", startedWith(1, 1).status(SrtDivider.STATUS_ROW), 0);
     }
 
     private static void recordsCycleZero() {

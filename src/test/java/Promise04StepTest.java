@@ -1,7 +1,4 @@
-import java.util.ArrayList;
-import java.util.List;
-
-/** Promise 4: step performs cycles exactly as told under Terms, at most those that remain. */
+/** Promise 4: step performs the next cycles, at most those that remain, and what holds of each. */
 public final class Promise04StepTest {
     private static final int[] COUNTS_BELOW_ONE = {0, -1, -2, -9, -10, Integer.MIN_VALUE + 1, Integer.MIN_VALUE};
     private static final int[] COUNTS = {1, 2, 9, 10, 11, 12, 65536, Integer.MAX_VALUE - 1, Integer.MAX_VALUE};
@@ -25,39 +22,17 @@ public final class Promise04StepTest {
     }
 
     private static void holdsInSweep(Sweep sweep) {
-        Check.sentence("2 if e >= m(2); else 1 if e >= m(1); else 0 if e >= m(0); else -1 if e >= m(-1); else -2",
-            () -> sweep.due("digit chosen by the table", everyThreshold()));
-        Check.sentence("if e7 >= 64 then e7 = e7 - 128",
-            () -> sweep.due("estimate within -64..63", "a negative estimate"));
-        Check.sentence("new QP = 4*QP + q if q >= 0, else 4*QM + 4 + q",
-            () -> sweep.due("QP with the digit appended", "digit -2", "digit -1", "digit 0", "digit 1", "digit 2"));
-        Check.sentence("new QM = 4*QP + q - 1 if q > 0, else 4*QM + 3 + q",
-            () -> sweep.due("QM with the digit appended", "digit -2", "digit -1", "digit 0", "digit 1", "digit 2"));
-        Check.sentence("P_j = (N - QP_j * D * 4^(9-j)) * 4^j exactly",
-            () -> sweep.due("meaning of the partial remainder"));
-        Check.sentence("3*|P_j| <= D*2^19", () -> sweep.due("partial remainder within two thirds"));
-        Check.sentence("QM_j = QP_j - 1", () -> sweep.due("QM is QP less one"));
-        Check.sentence("for j >= 1 digit_j lies in -2..2", () -> sweep.due("digit within -2..2"));
-        Check.sentence("If P < 0: Qf = QM_9; else Qf = QP_9", () -> sweep.due(
-            "quotient register picked by the sign", "a negative P_9", "a P_9 of 0", "a positive P_9"));
-        Check.sentence("If P < 0: R = (P >> 18) + D; else R = P >> 18. The final remainder is R >> s",
-            () -> sweep.due("remainder corrected by the sign", "a negative P_9", "a P_9 of 0", "a positive P_9"));
-        Check.sentence("X = q*V + r exactly",
-            () -> sweep.due("X = q*V + r", "a quotient of 0", "a quotient of 65535"));
-        Check.sentence("0 <= r < V", () -> sweep.due("0 <= r < V", "a remainder of 0", "a remainder of V - 1"));
-    }
-
-    /** Each entry of the table and the estimate one below it. */
-    private static String[] everyThreshold() {
-        List<String> cases = new ArrayList<>();
-        for (int row = 0; row <= 7; row++) {
-            for (int digit = -1; digit <= 2; digit++) {
-                int threshold = SelectionTable.threshold(row, digit);
-                cases.add("row " + row + ", estimate " + threshold);
-                cases.add("row " + row + ", estimate " + (threshold - 1));
-            }
-        }
-        return cases.toArray(new String[0]);
+        Check.sentence("3*|P_j| <= D*2^19", () -> sweep.dueEverywhere("partial remainder within two thirds"));
+        Check.sentence("QM_j = QP_j - 1", () -> sweep.dueEverywhere("QM is QP less one"));
+        Check.sentence("for j >= 1 digit_j lies in -2..2", () -> sweep.dueEverywhere("digit within -2..2"));
+        Check.sentence("X = q*V + r exactly", () -> {
+            sweep.dueEverywhere("X = q*V + r");
+            sweep.due("X = q*V + r", "a quotient of 0", "a quotient of 65535");
+        });
+        Check.sentence("0 <= r < V", () -> {
+            sweep.dueEverywhere("0 <= r < V");
+            sweep.due("0 <= r < V", "a remainder of 0", "a remainder of V - 1");
+        });
     }
 
     private static void refusesOutsideIterating() {

@@ -9,6 +9,8 @@ public final class Promise05DivideTest {
         Check.sentence("a refused divide changes nothing", divide::changeNothing);
         Check.sentence("Otherwise it has exactly the effect of load(dividend, divisor), start(), step(10) in that"
             + " order, and answers true", Promise05DivideTest::equalsLoadStartStep);
+        Check.sentence("exactly the effect of load, start, step(10), for divisors over the whole range",
+            Promise05DivideTest::equalsLoadStartStepForManyDivisors);
         Check.sentence("the phase ends as PHASE_DONE with 10 cycles done", Promise05DivideTest::endsAsDone);
         Check.sentence("the full trace of the division is readable", Promise05DivideTest::leavesFullTrace);
         Check.sentence("one history record is pushed and the division count grows by one",
@@ -16,19 +18,38 @@ public final class Promise05DivideTest {
         Check.end();
     }
 
+    /** In every later answer too, since a register that differs need not show at once. */
     private static void equalsLoadStartStep() {
         for (State state : State.outside(SrtDivider.PHASE_ITERATING)) {
             for (int[] operands : Refusals.edgeOperands()) {
-                SrtDivider unit = state.make();
-                SrtDivider other = state.make();
-                other.load(operands[0], operands[1]);
-                other.start();
-                other.step(10);
                 String call = "divide(" + operands[0] + ", " + operands[1] + ") in " + state.name();
-                Check.due(call, unit.divide(operands[0], operands[1]), true);
-                Check.unchanged(call, Snapshot.of(other), unit);
+                Aftermath.areAlike(call, () -> inThreeCalls(state.make(), operands[0], operands[1]),
+                    () -> inOneCall(state.make(), operands[0], operands[1]));
             }
         }
+    }
+
+    private static void equalsLoadStartStepForManyDivisors() {
+        SrtDivider unit = new SrtDivider(2);
+        SrtDivider other = new SrtDivider(2);
+        for (int divisor = 1; divisor <= SrtDivider.MAX_OPERAND; divisor += divisor < 4096 ? 1 : 5) {
+            int dividend = Units.scattered(divisor);
+            inOneCall(unit, dividend, divisor);
+            inThreeCalls(other, dividend, divisor);
+            Check.unchanged("divide(" + dividend + ", " + divisor + ")", Snapshot.of(other), unit);
+        }
+    }
+
+    private static SrtDivider inOneCall(SrtDivider unit, int dividend, int divisor) {
+        Check.due("divide(" + dividend + ", " + divisor + ")", unit.divide(dividend, divisor), true);
+        return unit;
+    }
+
+    private static SrtDivider inThreeCalls(SrtDivider unit, int dividend, int divisor) {
+        unit.load(dividend, divisor);
+        unit.start();
+        unit.step(10);
+        return unit;
     }
 
     private static void endsAsDone() {

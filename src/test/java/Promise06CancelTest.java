@@ -44,8 +44,7 @@ public final class Promise06CancelTest {
     private static void makesNoRecord() {
         for (int past = 0; past <= Units.CAPACITY + 1; past++) {
             for (int cycles = 0; cycles <= 9; cycles++) {
-                SrtDivider unit = Units.iterating(past, 54321, 123, cycles);
-                unit.cancel();
+                SrtDivider unit = cancelled(past, 54321, 123, cycles);
                 String state = "cancel() in cycle " + cycles + " after " + past + " divisions";
                 Units.dueCounts(state, unit, Math.min(past, Units.CAPACITY), past, Units.CAPACITY);
                 Units.duePast(state, unit, Units.CAPACITY, past, 0);
@@ -63,22 +62,39 @@ public final class Promise06CancelTest {
 
     private static void startsAfresh() {
         for (int cycles = 0; cycles <= 9; cycles++) {
-            SrtDivider unit = Units.iterating(1, 54321, 123, cycles);
-            unit.cancel();
+            SrtDivider unit = cancelled(1, 54321, 123, cycles);
             Check.due("start() once cancelled", unit.start(), true);
             Check.unchanged("start() once cancelled", Snapshot.of(Units.iterating(1, 54321, 123, 0)), unit);
-            Check.due("step(10) once cancelled", unit.step(10), 10);
-            Check.unchanged("step(10) once cancelled", Snapshot.of(Units.done(1, 54321, 123)), unit);
+            for (int cycle = 1; cycle <= 9; cycle++) {
+                Check.due("step(1) once cancelled", unit.step(1), 1);
+                Check.unchanged("step(1) once cancelled", Snapshot.of(Units.iterating(1, 54321, 123, cycle)), unit);
+            }
+            Check.due("the last step(1) once cancelled", unit.step(1), 1);
+            Check.unchanged("the last step(1) once cancelled", Snapshot.of(Units.done(1, 54321, 123)), unit);
         }
     }
 
+    /** Whatever is called later, the unit answers as one that was only loaded with the same operands. */
     private static void isLikeLoad() {
-        for (int cycles = 0; cycles <= 9; cycles++) {
-            SrtDivider unit = Units.iterating(1, 54321, 123, cycles);
-            unit.cancel();
-            Check.unchanged("cancel()", Snapshot.of(Units.loaded(1, 54321, 123)), unit);
-            Check.due("load(100, 7) once cancelled", unit.load(100, 7), true);
-            Check.unchanged("load(100, 7) once cancelled", Snapshot.of(Units.loaded(1, 100, 7)), unit);
+        for (int past = 0; past <= Units.CAPACITY + 1; past++) {
+            for (int cycles = 0; cycles <= 9; cycles++) {
+                for (int[] operands : new int[][] {{54321, 123}, {65535, 1}, {0, 65535}, {65535, 65535}}) {
+                    dueLikeLoad(past, cycles, operands[0], operands[1]);
+                }
+            }
         }
+    }
+
+    private static void dueLikeLoad(int past, int cycles, int dividend, int divisor) {
+        String name = "cancel() in cycle " + cycles + " of " + dividend + " / " + divisor
+            + " after " + past + " divisions";
+        Aftermath.areAlike(name, () -> Units.loaded(past, dividend, divisor),
+            () -> cancelled(past, dividend, divisor, cycles));
+    }
+
+    private static SrtDivider cancelled(int past, int dividend, int divisor, int cycles) {
+        SrtDivider unit = Units.iterating(past, dividend, divisor, cycles);
+        unit.cancel();
+        return unit;
     }
 }

@@ -1,4 +1,6 @@
-/** Promise 7 and "History" under Terms: clearHistory empties the history and leaves all else. */
+import java.util.List;
+
+/** Promise 7: clearHistory empties the history and leaves all else. */
 public final class Promise07ClearHistoryTest {
     private static final int[] CAPACITIES = {1, 2, 3, 15, 16};
 
@@ -9,13 +11,8 @@ public final class Promise07ClearHistoryTest {
             + " the division count and the capacity are kept", Promise07ClearHistoryTest::leavesAllElse);
         Check.sentence("any running division is kept, to its end", Promise07ClearHistoryTest::leavesRunningDivision);
         Check.sentence("On an already empty history it has no effect", Promise07ClearHistoryTest::leavesEmptyHistory);
-        Check.sentence("A list of at most capacity records, newest first (index 0)",
-            Promise07ClearHistoryTest::keepsTheNewest);
-        Check.sentence("Pushing when the list holds capacity records first discards the oldest one",
-            Promise07ClearHistoryTest::discardsTheOldest);
-        Check.sentence("otherwise the list grows by one", Promise07ClearHistoryTest::growsByOne);
-        Check.sentence("otherwise the list grows by one, from 0 again once cleared",
-            Promise07ClearHistoryTest::growsAgain);
+        Check.sentence("later calls answer as before, and the history grows from 0 again",
+            Promise07ClearHistoryTest::leavesLaterAnswers);
         Check.end();
     }
 
@@ -36,19 +33,8 @@ public final class Promise07ClearHistoryTest {
     private static void leavesAllElse() {
         for (State state : State.all()) {
             SrtDivider unit = state.make();
-            SrtDivider spared = state.make();
             unit.clearHistory();
-            String call = "clearHistory() in " + state.name();
-            for (int kind = -1; kind <= 12; kind++) {
-                int wanted = kind == SrtDivider.STATUS_HISTORY_COUNT ? 0 : spared.status(kind);
-                Check.due(call + ": status(" + kind + ")", unit.status(kind), wanted);
-            }
-            for (int j = -1; j <= 11; j++) {
-                for (int kind = 0; kind <= 3; kind++) {
-                    Check.due(call + ": trace(" + kind + ", " + j + ")", unit.trace(kind, j), spared.trace(kind, j));
-                }
-                Check.due(call + ": P_" + j, unit.partialRemainder(j), spared.partialRemainder(j));
-            }
+            dueSameButHistory("clearHistory() in " + state.name(), unit, state.make());
         }
     }
 
@@ -69,55 +55,48 @@ public final class Promise07ClearHistoryTest {
         }
     }
 
-    private static void keepsTheNewest() {
-        for (int capacity = 1; capacity <= 16; capacity++) {
-            for (int past = 0; past <= 40; past++) {
-                SrtDivider unit = Units.filled(capacity, past);
-                String state = past + " divisions, capacity " + capacity;
-                Units.dueCounts(state, unit, Math.min(past, capacity), past, capacity);
-                Units.duePast(state, unit, capacity, past, 0);
+    private static void leavesLaterAnswers() {
+        for (State state : State.all()) {
+            for (List<Aftermath.Call> future : Aftermath.futures()) {
+                SrtDivider spared = state.make();
+                SrtDivider unit = state.make();
+                int divisionsBefore = spared.status(SrtDivider.STATUS_DIVISIONS);
+                unit.clearHistory();
+                for (int i = 0; i < future.size(); i++) {
+                    String name = "clearHistory() in " + state.name() + " and " + (i + 1) + " later calls";
+                    long due = future.get(i).on(spared);
+                    Check.due(name + ", the last of them", future.get(i).on(unit), due);
+                    dueSameButHistory(name, unit, spared);
+                    dueRecordsSince(name, unit, spared, divisionsBefore);
+                }
             }
         }
     }
 
-    private static void discardsTheOldest() {
-        for (int capacity : CAPACITIES) {
-            SrtDivider unit = Units.filled(capacity, capacity);
-            String state = "a push into " + capacity + " full places";
-            Units.dueRecord(state, unit, capacity - 1, Units.pastDividend(1), Units.pastDivisor(1));
-            unit.divide(100, 7);
-            Check.due(state + ": count", unit.status(SrtDivider.STATUS_HISTORY_COUNT), capacity);
-            Units.dueRecord(state, unit, 0, 100, 7);
-            for (int k = 1; k < capacity; k++) {
-                int i = capacity + 1 - k;
-                Units.dueRecord(state, unit, k, Units.pastDividend(i), Units.pastDivisor(i));
+    /** Of the records of the unit that was spared, those of the divisions completed since. */
+    private static void dueRecordsSince(String name, SrtDivider unit, SrtDivider spared, int divisionsBefore) {
+        int since = spared.status(SrtDivider.STATUS_DIVISIONS) - divisionsBefore;
+        int count = Math.min(since, spared.status(SrtDivider.STATUS_HISTORY_COUNT));
+        Check.due(name + ": history count", unit.status(SrtDivider.STATUS_HISTORY_COUNT), count);
+        for (int k = -1; k <= 17; k++) {
+            for (int kind = 0; kind <= 3; kind++) {
+                int wanted = k < count ? spared.history(kind, k) : Units.NONE;
+                Check.due(name + ": history(" + kind + ", " + k + ")", unit.history(kind, k), wanted);
             }
-            Units.dueNoRecord(state, unit, capacity);
         }
     }
 
-    private static void growsByOne() {
-        for (int capacity : CAPACITIES) {
-            SrtDivider unit = Units.filled(capacity, capacity - 1);
-            String state = "a push into the last of " + capacity + " places";
-            Check.due(state + ": count before", unit.status(SrtDivider.STATUS_HISTORY_COUNT), capacity - 1);
-            unit.divide(100, 7);
-            Check.due(state + ": count after", unit.status(SrtDivider.STATUS_HISTORY_COUNT), capacity);
-            Units.dueRecord(state, unit, 0, 100, 7);
-            Units.duePast(state, unit, capacity, capacity - 1, 1);
-        }
-    }
-
-    private static void growsAgain() {
-        for (int capacity : CAPACITIES) {
-            SrtDivider unit = Units.filled(capacity, capacity + 1);
-            unit.clearHistory();
-            for (int i = 1; i <= capacity + 2; i++) {
-                unit.divide(Units.pastDividend(i), Units.pastDivisor(i));
-                String state = "division " + i + " after clearHistory(), capacity " + capacity;
-                Units.dueCounts(state, unit, Math.min(i, capacity), capacity + 1 + i, capacity);
-                Units.duePast(state, unit, capacity, i, 0);
+    private static void dueSameButHistory(String name, SrtDivider unit, SrtDivider spared) {
+        for (int kind = -1; kind <= 12; kind++) {
+            if (kind != SrtDivider.STATUS_HISTORY_COUNT) {
+                Check.due(name + ": status(" + kind + ")", unit.status(kind), spared.status(kind));
             }
+        }
+        for (int j = -1; j <= 11; j++) {
+            for (int kind = 0; kind <= 3; kind++) {
+                Check.due(name + ": trace(" + kind + ", " + j + ")", unit.trace(kind, j), spared.trace(kind, j));
+            }
+            Check.due(name + ": P_" + j, unit.partialRemainder(j), spared.partialRemainder(j));
         }
     }
 }

@@ -18,6 +18,8 @@ public final class Promise11HistoryTest {
             Promise11HistoryTest::holdsCompletedDivisionsAlone);
         Check.sentence("dividend = quotient*divisor + remainder with 0 <= remainder < divisor",
             Promise11HistoryTest::holdsEdgeDivisions);
+        Check.sentence("For every stored record, of divisions by every divisor",
+            Promise11HistoryTest::holdsForEveryDivisor);
         Check.end();
     }
 
@@ -133,13 +135,31 @@ public final class Promise11HistoryTest {
         for (int[] operands : Refusals.edgeOperands()) {
             unit.divide(operands[0], operands[1]);
             Units.dueRecord(operands[0] + " / " + operands[1], unit, 0, operands[0], operands[1]);
+            dueExactRecords(unit);
         }
-        for (int k = 0; k <= 15; k++) {
+    }
+
+    /** Every divisor, so each row of the selection table and each shift, in a history that is full. */
+    private static void holdsForEveryDivisor() {
+        SrtDivider unit = new SrtDivider(16);
+        for (int divisor = 1; divisor <= SrtDivider.MAX_OPERAND; divisor++) {
+            int dividend = Units.scattered(divisor);
+            unit.load(dividend, divisor);
+            unit.start();
+            dueExactRecords(unit);
+            unit.step(10);
+            dueExactRecords(unit);
+            Units.dueRecord(dividend + " / " + divisor, unit, 0, dividend, divisor);
+        }
+    }
+
+    private static void dueExactRecords(SrtDivider unit) {
+        for (int k = 0; k < unit.status(SrtDivider.STATUS_HISTORY_COUNT); k++) {
             int divisor = unit.history(SrtDivider.HIST_DIVISOR, k);
             int remainder = unit.history(SrtDivider.HIST_REMAINDER, k);
-            Check.due("dividend of record " + k, unit.history(SrtDivider.HIST_DIVIDEND, k),
+            Check.due("dividend of the record", unit.history(SrtDivider.HIST_DIVIDEND, k),
                 unit.history(SrtDivider.HIST_QUOTIENT, k) * divisor + remainder);
-            Check.holds("0 <= remainder < divisor in record " + k, remainder >= 0 && remainder < divisor);
+            Check.holds("0 <= remainder < divisor in the record", remainder >= 0 && remainder < divisor);
         }
     }
 }

@@ -28,6 +28,11 @@ final class Units {
         return 1 + 37 * i;
     }
 
+    /** A dividend for each divisor, spread over the whole range. */
+    static int scattered(int divisor) {
+        return divisor * 40503 & 65535;
+    }
+
     static SrtDivider loaded(int past, int dividend, int divisor) {
         SrtDivider unit = filled(past);
         unit.load(dividend, divisor);
