@@ -1,138 +1,143 @@
-import java.io.IOException;
-import java.lang.reflect.Constructor;
 import java.lang.reflect.Field;
 import java.lang.reflect.Method;
 import java.lang.reflect.Modifier;
-import java.nio.file.Files;
-import java.nio.file.Path;
+import java.util.Arrays;
 import java.util.Set;
 import java.util.TreeSet;
 import java.util.regex.Matcher;
 import java.util.regex.Pattern;
 
-/** The face of the document, no more and no less, and the rules of LANGUAGE.md that can be looked up. */
+/** The rules of LANGUAGE.md that can be looked up in the class file or in the text; FaceTest holds most of rule 1. */
 public final class LanguageTest {
-    private static final Path SOURCE = Path.of("src/main/java/SrtDivider.java");
+    private static final int LINES_AT_MOST = 60;
+    private static final int DEPTH_AT_MOST = 6;
+    private static final int FIELDS_AT_MOST = 40;
 
-    private static final Set<String> METHODS = Set.of(
-        "boolean load(int,int)", "boolean start()", "int step(int)", "boolean divide(int,int)",
-        "boolean cancel()", "void clearHistory()", "int status(int)", "int trace(int,int)",
-        "long partialRemainder(int)", "int history(int,int)", "int threshold(int,int)");
-
-    private static final Set<String> CONSTANTS = Set.of(
-        "int NONE=-2147483648", "long NONE_LONG=-9223372036854775808",
-        "int PHASE_EMPTY=0", "int PHASE_LOADED=1", "int PHASE_ITERATING=2", "int PHASE_DONE=3",
-        "int ITERATION_CYCLES=9", "int LAST_CYCLE=10",
-        "int MAX_OPERAND=65535", "int HISTORY_MIN=1", "int HISTORY_MAX=16",
-        "int STATUS_PHASE=0", "int STATUS_CYCLE=1", "int STATUS_DIVIDEND=2", "int STATUS_DIVISOR=3",
-        "int STATUS_SHIFT=4", "int STATUS_NORM_DIVISOR=5", "int STATUS_ROW=6", "int STATUS_QUOTIENT=7",
-        "int STATUS_REMAINDER=8", "int STATUS_HISTORY_COUNT=9", "int STATUS_DIVISIONS=10", "int STATUS_CAPACITY=11",
-        "int TRACE_DIGIT=0", "int TRACE_ESTIMATE=1", "int TRACE_QP=2", "int TRACE_QM=3",
-        "int HIST_DIVIDEND=0", "int HIST_DIVISOR=1", "int HIST_QUOTIENT=2", "int HIST_REMAINDER=3");
-
-    private static final Pattern FORBIDDEN = Pattern.compile(
+    private static final Pattern OUTSIDE_THE_LANGUAGE = Pattern.compile(
         "\\b(package|import|interface|enum|record|float|double|String|Object|Math|Integer|Long|System|Arrays|null"
         + "|throw|throws|try|catch|finally|synchronized|assert|instanceof|protected|volatile|transient|native"
         + "|strictfp|var|length|clone)\\b|->|::|\\[\\s*\\]\\s*\\[|@|\"");
+    private static final Pattern STATIC_FIELD = Pattern.compile(
+        "    (public|private) static final (int|long) [A-Z_]+ = -?\\d+L?;");
+    private static final Pattern ARRAY_FIELD = Pattern.compile(
+        "    private final (int|long)\\[\\] \\w+ = new (int|long)\\[[A-Z_]+\\];");
+    private static final Pattern COUNTED_FOR = Pattern.compile(
+        "\\s+for \\(int (\\w+) = [^;]+; \\1 (<|>|<=|>=) \\w+; \\1(\\+\\+|--)\\) \\{");
+    private static final Pattern COUNTED_WHILE = Pattern.compile("\\s+while \\((\\w+) < [A-Z_]+ && .*\\) \\{");
 
-    public static void main(String[] args) throws IOException, IllegalAccessException {
-        hasTheClassOfTheDocument();
-        hasTheConstructorOfTheDocument();
-        hasTheMethodsOfTheDocument();
-        hasTheConstantsOfTheDocument();
-        hasFewFields();
-        String code = withoutComments(Files.readString(SOURCE));
-        usesNoForbiddenWord(code);
-        makesArraysInFieldsAlone(code);
+    private static final Source SOURCE = new Source();
+
+    public static void main(String[] args) {
+        Check.sentence("1. No private method bears the name of a public one", LanguageTest::namesDiffer);
+        Check.sentence("2. int, long, short, byte, char, boolean, and one-dimensional arrays of these",
+            LanguageTest::holdsNumbersAlone);
+        Check.sentence("2, 3 and 6. no String, no class of the Java library, no throw, try, lambda, null",
+            LanguageTest::usesNoForbiddenWord);
+        Check.sentence("4. Arrays are made in a field's initialiser, each once, with a length that is a constant",
+            LanguageTest::makesArraysInFieldsAlone);
+        Check.sentence("5. Static fields are compile-time constants of int or long alone",
+            LanguageTest::hasStaticNumbersAlone);
+        Check.sentence("8. No recursion", LanguageTest::neverRecurs);
+        Check.sentence("8. Every loop has an end that can be seen from its own lines", LanguageTest::countsItsLoops);
+        Check.sentence("10. at most seven parameters", LanguageTest::takesFewParameters);
+        Check.sentence("10. no call stands inside the arguments of another call", LanguageTest::nestsNoCall);
+        Check.sentence("10. Methods stay short, calls go at most six deep", LanguageTest::staysShortAndFlat);
+        Check.sentence("10. at most some forty fields beside its constants", LanguageTest::hasFewFields);
         Check.end();
     }
 
-    private static void hasTheClassOfTheDocument() {
-        Class<?> type = SrtDivider.class;
-        Check.due("modifiers of the class", type.getModifiers(), Modifier.PUBLIC | Modifier.FINAL);
-        Check.due("nested classes", type.getDeclaredClasses().length, 0);
-        Check.holds("no package", type.getPackageName().isEmpty());
-        Check.holds("no superclass but Object", type.getSuperclass() == Object.class);
-        Check.due("interfaces", type.getInterfaces().length, 0);
-    }
-
-    private static void hasTheConstructorOfTheDocument() {
-        Constructor<?>[] constructors = SrtDivider.class.getDeclaredConstructors();
-        Check.due("constructors", constructors.length, 1);
-        Check.holds("the constructor is SrtDivider(int)",
-            constructors[0].toString().equals("public SrtDivider(int)"));
-    }
-
-    private static void hasTheMethodsOfTheDocument() {
-        Set<String> open = new TreeSet<>();
-        Set<String> openNames = new TreeSet<>();
-        Set<String> hiddenNames = new TreeSet<>();
+    private static void namesDiffer() {
+        Set<String> names = new TreeSet<>();
         for (Method method : SrtDivider.class.getDeclaredMethods()) {
-            Check.holds(method + " has at most seven parameters", method.getParameterCount() <= 7);
-            if (Modifier.isPrivate(method.getModifiers())) {
-                hiddenNames.add(method.getName());
-            } else {
-                Check.due("modifiers of " + method, method.getModifiers(), Modifier.PUBLIC);
-                open.add(signatureOf(method));
-                openNames.add(method.getName());
-            }
+            Check.holds(method + " has a name of its own", names.add(method.getName()));
         }
-        Check.holds("the public methods are those of the document: " + open, open.equals(METHODS));
-        hiddenNames.retainAll(openNames);
-        Check.holds("no private method bears the name of a public one: " + hiddenNames, hiddenNames.isEmpty());
+        names.add("SrtDivider");
+        Check.holds("the text shows every method: " + SOURCE.methods(), SOURCE.methods().equals(names));
     }
 
-    private static String signatureOf(Method method) {
-        StringBuilder text = new StringBuilder(method.getReturnType() + " " + method.getName() + "(");
-        for (Class<?> parameter : method.getParameterTypes()) {
-            text.append(text.toString().endsWith("(") ? "" : ",").append(parameter);
-        }
-        return text.append(")").toString();
-    }
-
-    private static void hasTheConstantsOfTheDocument() throws IllegalAccessException {
-        Set<String> open = new TreeSet<>();
-        for (Field field : SrtDivider.class.getDeclaredFields()) {
-            int modifiers = field.getModifiers();
-            boolean number = field.getType() == int.class || field.getType() == long.class;
-            if (Modifier.isStatic(modifiers)) {
-                Check.holds(field + " is a constant number", number && Modifier.isFinal(modifiers));
-            }
-            if (!Modifier.isPrivate(modifiers)) {
-                Check.due("modifiers of " + field, modifiers, Modifier.PUBLIC | Modifier.STATIC | Modifier.FINAL);
-                open.add(field.getType() + " " + field.getName() + "=" + field.get(null));
-            }
-        }
-        Check.holds("the public constants are those of the document: " + open, open.equals(CONSTANTS));
-    }
-
-    private static void hasFewFields() {
-        int fields = 0;
+    private static void holdsNumbersAlone() {
         for (Field field : SrtDivider.class.getDeclaredFields()) {
             Class<?> type = field.getType();
-            Class<?> element = type.isArray() ? type.getComponentType() : type;
-            Check.holds(field + " is a number, a boolean or an array of these", element.isPrimitive());
-            fields += Modifier.isStatic(field.getModifiers()) ? 0 : 1;
+            dueNumber(field.toString(), type.isArray() ? type.getComponentType() : type);
         }
-        Check.holds("at most forty fields", fields <= 40);
+        for (Method method : SrtDivider.class.getDeclaredMethods()) {
+            dueNumber("answer of " + method, method.getReturnType());
+        }
     }
 
-    private static String withoutComments(String source) {
-        return source.replaceAll("(?s)/\\*.*?\\*/", " ").replaceAll("//[^\n]*", " ");
+    private static void dueNumber(String what, Class<?> type) {
+        Check.holds(what + " is a whole number or a boolean",
+            type.isPrimitive() && type != float.class && type != double.class);
     }
 
-    private static void usesNoForbiddenWord(String code) {
-        Matcher matcher = FORBIDDEN.matcher(code);
+    private static void usesNoForbiddenWord() {
+        Matcher matcher = OUTSIDE_THE_LANGUAGE.matcher(SOURCE.code());
+        Check.holds("the text was read", SOURCE.code().contains("public final class SrtDivider"));
         while (matcher.find()) {
             Check.holds("no '" + matcher.group() + "' in the program", false);
         }
     }
 
-    private static void makesArraysInFieldsAlone(String code) {
-        for (String line : code.split("\n")) {
-            if (line.matches(".*\\bnew\\b.*")) {
-                Check.holds(line.trim() + " is a field with an array of constant length",
-                    line.matches("    private final (int|long)\\[\\] \\w+ = new (int|long)\\[[A-Z_]+\\];"));
+    private static void makesArraysInFieldsAlone() {
+        dueForm("\\bnew\\b", ARRAY_FIELD);
+    }
+
+    private static void hasStaticNumbersAlone() {
+        for (String line : SOURCE.lines()) {
+            if (line.matches(".*\\bstatic\\b.*") && !line.endsWith("{")) {
+                Check.holds(line.trim() + " is a constant", STATIC_FIELD.matcher(line).matches());
+            }
+        }
+        Check.holds("no static initialiser", !SOURCE.code().matches("(?s).*\\bstatic\\s*\\{.*"));
+    }
+
+    private static void neverRecurs() {
+        for (String method : SOURCE.methods()) {
+            Check.holds(method + " does not come back to itself", SOURCE.depthOf(method) <= SOURCE.methods().size());
+        }
+    }
+
+    private static void countsItsLoops() {
+        dueForm("\\bfor \\(", COUNTED_FOR);
+        dueForm("\\bwhile \\(", COUNTED_WHILE);
+        Check.holds("no do loop", !SOURCE.code().matches("(?s).*\\bdo\\s*\\{.*"));
+    }
+
+    private static void takesFewParameters() {
+        for (Method method : SrtDivider.class.getDeclaredMethods()) {
+            Check.holds(method + " has at most seven parameters", method.getParameterCount() <= 7);
+        }
+    }
+
+    private static void nestsNoCall() {
+        String name = "\\b(" + String.join("|", SOURCE.methods()) + ")\\(";
+        Pattern nested = Pattern.compile(name + "[^;{]*" + name);
+        for (String method : SOURCE.methods()) {
+            for (String line : SOURCE.bodyOf(method)) {
+                Check.holds(line.trim() + " calls once at most", !nested.matcher(line).find());
+            }
+        }
+    }
+
+    private static void staysShortAndFlat() {
+        for (String method : SOURCE.methods()) {
+            Check.holds(method + " is short", SOURCE.bodyOf(method).size() <= LINES_AT_MOST);
+            Check.holds(method + " calls no deeper than six", SOURCE.depthOf(method) <= DEPTH_AT_MOST);
+        }
+    }
+
+    private static void hasFewFields() {
+        long fields = Arrays.stream(SrtDivider.class.getDeclaredFields())
+            .filter(field -> !Modifier.isStatic(field.getModifiers())).count();
+        Check.holds("at most forty fields", fields <= FIELDS_AT_MOST);
+    }
+
+    /** Every line with the word has the form. */
+    private static void dueForm(String word, Pattern form) {
+        Pattern inLine = Pattern.compile(word);
+        for (String line : SOURCE.lines()) {
+            if (inLine.matcher(line).find()) {
+                Check.holds(line.trim() + " has the form " + form, form.matcher(line).matches());
             }
         }
     }
